@@ -94,6 +94,8 @@ public final class PromiseTest {
     promise = 4;
     reads("", 0, 0);
     reads("   ", 0, 0);
+    reads(" ".repeat(160), 0, 0);
+    reads(" ".repeat(154) + "plain;", 1, 0);
     reads("plain;", 1, 0);
     reads("plain ; ", 1, 0);
     reads("star0 9 6;star9 9 0;well40 9;wind10;water99;cloud0;cloud9;known1;plan;", 9, 0);
@@ -126,6 +128,9 @@ public final class PromiseTest {
     due("images are gone", x.count(2), 0);
     due("back(0)", x.back(0), STATE);
     due("the sheet stays", x.count(4), 7);
+    due("one well each", tell(x, "well 1 1;wind 1;water 1;plan;"), 4);
+    due("and again in another text", tell(x, "well 2 2;wind 2;water 2;plan 5;"), 4);
+    due("the well is the latest", x.rule(3), 2);
     due("an empty text", x.text(), 0);
     due("nobody is told", x.rule(1), 0);
   }
@@ -137,11 +142,16 @@ public final class PromiseTest {
     reads("plain;\t", -16, 1);
     reads("star 123 1 1;", -15, 1);
     reads("known 0;known 1000;", -24, 1);
+    reads("1".repeat(160), -10, 1);
     reads("foo $", -10, 2);
+    reads("a".repeat(160), -10, 2);
+    reads("plain" + " ".repeat(155), -170, 2);
     reads("plain $", -16, 1);
     reads(";", -10, 2);
     reads("7", -10, 2);
     reads("stars 1 1 1;", -10, 2);
+    reads("ztar 1 1 1;", -10, 2);
+    reads("plaiz;", -10, 2);
     reads("plainlame;", -10, 2);
     reads("plain", -15, 2);
     reads("plain  ", -17, 2);
@@ -158,6 +168,7 @@ public final class PromiseTest {
     reads("star 5 10 1;", -17, 3);
     reads("star 5 5 7;", -19, 3);
     reads("known 5;", -16, 3);
+    reads("known 4;", -18, 6);
     reads("well 0 1;", -15, 3);
     reads("well 41 1;", -15, 3);
     reads("well 1 10;", -17, 3);
@@ -347,6 +358,7 @@ public final class PromiseTest {
     for (int h = 0; h < 10; h++) {
       due("up(" + h + ")", x.up(h), up[h]);
     }
+    due("no star", new StarWalk().up(0), 0);
     due("up(-1)", x.up(-1), BAD);
     due("up(10)", x.up(10), BAD);
   }
@@ -455,6 +467,7 @@ public final class PromiseTest {
     }
     due("hour 10", x.next(), STATE);
     due("no star", new StarWalk().next(), 5);
+    due("by wind rather than a star far off", told("star 0 0 6;").next(), 5);
   }
 
   private static void best() {
@@ -489,6 +502,15 @@ public final class PromiseTest {
     due("none can be", x.best(4, 13), 0);
     x = told("water 0;");
     due("none can be, no star", x.best(2, 11), 5);
+    x = told("star 0 0 6;star 1 1 2;star 2 2 0;wind 0;");
+    x.go(0);
+    due("3 to the left, one hand back", x.best(1, 0), 1002);
+    due("3 to the left, all back", x.best(3, 0), 1000);
+    due("one hand back, three, then blind", x.best(3, 1), 11);
+    due("miles gone count", x.best(1, 1), 6);
+    x = told("star 0 0 1;");
+    x.go(0);
+    due("to the right, by wind", x.best(1, 0), 999);
   }
 
   private static void frontLessonsThirst() {
@@ -649,6 +671,10 @@ public final class PromiseTest {
     x.forget(0);
     x.see(0, 1);
     due("side now is another", x.aims(0), 0);
+    x.forget(0);
+    x.go(5);
+    x.see(0, 1);
+    due("side now is as seen", x.aims(0), 103);
     due("the plan is as it was", x.plan(0), 0);
     promise = 32;
     x = told("plain;lame;guide;wind 10;plan 5 5;");
@@ -860,7 +886,9 @@ public final class PromiseTest {
     due("hour", y.rule(8), 10);
     due("the water", y.rule(6), 10);
     y.sheet(0, 0, 3);
-    due("renewed cells are 0", y.read(0, 0, 0, 1), -20);
+    due("renewed", tell(y, "star 0 9 6;"), 1);
+    due("renewed cells are 0", y.read(0, 0, 0, 3), 3);
+    at(y, 3, 9, 9, 17);
     due("count", y.count(4), 3);
   }
 
