@@ -106,9 +106,27 @@ public final class FaceTest {
     }
   }
 
+  /** A method stands from a line that opens a brace at one of two depths to the line that closes it there. */
+  private static void lookAtLengths() throws IOException {
+    String[] lines = Files.readString(Path.of("src/main/java/StarWalk.java")).split("\n");
+    for (String indent : new String[] {"    ", "        "}) {
+      int from = -1;
+      for (int i = 0; i < lines.length; i++) {
+        boolean isClass = lines[i].contains(" class ");
+        if (lines[i].matches(indent + "\\S.*\\) \\{") && !isClass) {
+          from = i;
+        } else if (lines[i].equals(indent + "}") && from >= 0) {
+          due("line " + (from + 1) + ": more than sixty lines", i - from < 60);
+          from = -1;
+        }
+      }
+    }
+  }
+
   public static void main(String[] args) throws IOException {
     lookAtFace();
     lookAtSource();
+    lookAtLengths();
     System.out.println(wrong == 0 ? "the face is as due" : wrong + " things are not as due");
     if (wrong != 0) {
       System.exit(1);
