@@ -25,6 +25,7 @@ public final class FaceTest {
     "throw", "throws", "try", "catch", "finally", "synchronized", "assert", "import", "package", "protected",
     "var", "native", "volatile", "transient", "Object", "System\\.(?!arraycopy)", "Exact", "hashCode", "toString",
     "NaN", "Thread", "Random"};
+  private static final Set<String> LIBRARY = Set.of("Math.abs", "Math.max", "Math.min", "Integer.bitCount", "System.arraycopy");
   private static int wrong = 0;
 
   private static void due(String what, boolean is) {
@@ -101,6 +102,11 @@ public final class FaceTest {
     }
     due("'->' or '::' stands in the source", !code.contains("->") && !code.contains("::"));
     due("an annotation stands in the source", !code.contains("@"));
+    Matcher used = Pattern.compile("\\b(Math|Integer|Long|System|Arrays|Character|String|Boolean|Double)\\.\\w+").matcher(code);
+    while (used.find()) {
+      due(used.group() + " is not among what is used of the library", LIBRARY.contains(used.group()));
+    }
+    due("a list, a builder or a fraction type stands in the source", !Pattern.compile("\\b(List|ArrayList|StringBuilder|double|float)\\b").matcher(code).find());
     for (int i = 0; i < source.length(); i++) {
       due("a sign above 127 stands in the source", source.charAt(i) < 128);
     }
@@ -112,15 +118,30 @@ public final class FaceTest {
     for (String indent : new String[] {"    ", "        "}) {
       int from = -1;
       for (int i = 0; i < lines.length; i++) {
-        boolean isClass = lines[i].contains(" class ");
-        if (lines[i].matches(indent + "\\S.*\\) \\{") && !isClass) {
+        boolean isMethod = !lines[i].contains(" class ") && !lines[i].matches("\\s*(for|if|while|switch|\\}).*");
+        if (lines[i].matches(indent + "\\S.*\\) \\{") && isMethod) {
           from = i;
         } else if (lines[i].equals(indent + "}") && from >= 0) {
           due("line " + (from + 1) + ": more than sixty lines", i - from < 60);
+          due("line " + (from + 1) + ": makes an object, and is no constructor", isConstructor(lines[from]) || !makes(lines, from, i));
           from = -1;
         }
       }
     }
+  }
+
+  private static boolean isConstructor(String opening) {
+    return opening.matches("\\s+(public )?[A-Z]\\w*\\(.*");
+  }
+
+  /** All calls of a run share one room, so rows are made with the object and used again. */
+  private static boolean makes(String[] lines, int from, int to) {
+    for (int i = from; i < to; i++) {
+      if (lines[i].matches(".*\\bnew\\s+[A-Za-z].*") && !lines[i].matches("\\s*(//|\\*|/\\*).*")) {
+        return true;
+      }
+    }
+    return false;
   }
 
   public static void main(String[] args) throws IOException {
